@@ -1006,30 +1006,25 @@ public final class FloorPlans {
     /** The floors whose leases are kept in a quarter. */
     private static final class Leases {
         private final House house;
+        private final int[] seatsFrom = new int[FLOORS + 1];
+        private int heldSet = 0;
+        private int needed = 0;
         int keptSet = NONE;
         int keptPrice = NONE;
-        private int seatsOfSet = 0;
-        private int priceOfSet = 0;
 
         Leases(House house) {
             this.house = house;
         }
 
-        /** The sets come with the least bits first, so that of equal ones the first is kept. */
         void search(int quarter) {
             keptSet = NONE;
             keptPrice = NONE;
-            int needed = seatsNeeded(quarter);
-            int held = heldFloors(quarter);
-            for (int set = 0; set <= ALL_FLOORS; set++) {
-                if ((set & ~held) == 0) {
-                    addUp(set);
-                    if (seatsOfSet >= needed && isBetter(set)) {
-                        keptSet = set;
-                        keptPrice = priceOfSet;
-                    }
-                }
+            needed = seatsNeeded(quarter);
+            heldSet = heldFloors(quarter);
+            for (int f = FLOORS - 1; f >= 0; f--) {
+                seatsFrom[f] = seatsFrom[f + 1] + (holds(heldSet, f) ? house.floors[f][SEATS] : 0);
             }
+            addFrom(0, 0, 0, 0);
         }
 
         private int seatsNeeded(int quarter) {
@@ -1048,22 +1043,33 @@ public final class FloorPlans {
             return set;
         }
 
-        private void addUp(int set) {
-            seatsOfSet = 0;
-            priceOfSet = 0;
-            for (int f = 0; f < FLOORS && set >> f != 0; f++) {
-                if (holds(set, f)) {
-                    seatsOfSet += house.floors[f][SEATS];
-                    priceOfSet += house.floors[f][SEATS] * house.floors[f][PRICE];
-                }
+        /** One floor more than are needed is never better: it costs no less, and there are more of them. */
+        private void addFrom(int f, int set, int seats, int price) {
+            if (seats >= needed) {
+                keepIfBetter(set, price);
+                return;
+            }
+            boolean tooDear = keptSet != NONE && price > keptPrice;
+            if (f >= FLOORS || tooDear || seats + seatsFrom[f] < needed) {
+                return;
+            }
+            if (holds(heldSet, f)) {
+                int[] row = house.floors[f];
+                addFrom(f + 1, set | 1 << f, seats + row[SEATS], price + row[SEATS] * row[PRICE]);
+            }
+            addFrom(f + 1, set, seats, price);
+        }
+
+        private void keepIfBetter(int set, int price) {
+            if (keptSet == NONE || price < keptPrice || (price == keptPrice && isSmaller(set))) {
+                keptSet = set;
+                keptPrice = price;
             }
         }
 
-        private boolean isBetter(int set) {
-            if (keptSet == NONE || priceOfSet != keptPrice) {
-                return keptSet == NONE || priceOfSet < keptPrice;
-            }
-            return Integer.bitCount(set) < Integer.bitCount(keptSet);
+        private boolean isSmaller(int set) {
+            int more = Integer.bitCount(set) - Integer.bitCount(keptSet);
+            return more < 0 || (more == 0 && set < keptSet);
         }
     }
 }
