@@ -10,6 +10,7 @@ final class DesksTest {
         lackIsCut(due);
         lackByTheOrderOfPeople(due);
         lackOfTwenty(due);
+        chancesOfTwenty(due);
         lackRefusals(due);
         least(due);
         leastRefusals(due);
@@ -128,6 +129,31 @@ final class DesksTest {
         due.is("least(0, 0)", x.least(0, 0), 20);
         due.is("least(0, 999)", x.least(0, 999), 20);
         due.is("least(0, 1000)", x.least(0, 1000), 0);
+    }
+
+    /** Twenty people of all kinds (always the same ones), every part compared with SlowPlans'. */
+    private static void chancesOfTwenty(Due due) {
+        java.util.Random chance = new java.util.Random(20);
+        for (int run = 0; run < 40; run++) {
+            FloorPlans x = withTeams(1);
+            SlowPlans slow = new SlowPlans();
+            slow.team(1, 0, 0, 0);
+            for (int p = 0; p < 20; p++) {
+                int home = chance.nextInt(32) & chance.nextInt(32) & chance.nextInt(32);
+                int sure = chance.nextInt(65);
+                due.is("twenty " + run + ": person", x.person(0, home, sure), slow.person(0, home, sure));
+            }
+            for (int n = 0; n <= 20; n++) {
+                for (int d = 0; d < 5; d++) {
+                    due.is("twenty " + run + ": lack(0, " + n + ", " + d + ")", x.lack(0, n, d), slow.lack(0, n, d));
+                }
+            }
+            for (int share = 0; share <= 1000; share += 1 + run * 2) {
+                if (share < 100 || share % 50 == 0) {
+                    due.is("twenty " + run + ": least(0, " + share + ")", x.least(0, share), slow.least(0, share));
+                }
+            }
+        }
     }
 
     private static void lackRefusals(Due due) {

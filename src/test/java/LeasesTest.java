@@ -6,6 +6,7 @@ final class LeasesTest {
         growthRefusals(due);
         keptAtLeastPrice(due);
         keptOfFewestFloors(due);
+        keptOfLeastBits(due);
         keptByLeases(due);
         keptRefusals(due);
         bill(due);
@@ -103,6 +104,39 @@ final class LeasesTest {
         due.is("two gifts: kept(0, 1)", x.kept(0, 1), 0);
         x.floor(6, 2, 0);
         due.is("three gifts, of which two are needed: kept(0, 0)", x.kept(0, 0), 40);
+    }
+
+    /** Floors as told, {number, seats, price}, are held; all others are given up behind quarter 0. */
+    private static FloorPlans holding(int[]... told) {
+        FloorPlans x = new FloorPlans();
+        for (int f = 0; f <= 10; f++) {
+            x.floor(f, 3, 0);
+        }
+        for (int[] one : told) {
+            x.floor(one[0], 0, one[1]);
+            x.floor(one[0], 2, one[2]);
+            x.floor(one[0], 3, 1);
+        }
+        x.team(60, 0, 0, 0);
+        return x;
+    }
+
+    private static void keptOfLeastBits(Due due) {
+        FloorPlans x = holding(new int[] {0, 10, 10}, new int[] {10, 50, 10}, new int[] {1, 30, 10}, new int[] {2, 30, 10});
+        due.is("600 for 0 and 10, or for 1 and 2: kept(1, 0)", x.kept(1, 0), 6);
+        due.is("kept(1, 1)", x.kept(1, 1), 600);
+        FloorPlans y = holding(new int[] {0, 20, 10}, new int[] {1, 20, 10}, new int[] {3, 40, 10}, new int[] {4, 20, 0});
+        due.is("400 for 0, 1 and 4, or for 3 and 4: kept(1, 0)", y.kept(1, 0), 24);
+        due.is("kept(1, 1)", y.kept(1, 1), 400);
+        FloorPlans z = holding(new int[] {0, 0, 0}, new int[] {1, 60, 0}, new int[] {2, 60, 0});
+        due.is("a floor without seats is not kept: kept(1, 0)", z.kept(1, 0), 2);
+        due.is("kept(1, 1)", z.kept(1, 1), 0);
+        z.size(0, 59);
+        z.team(60, 0, 0, 0);
+        z.team(2, 0, 0, 0);
+        due.is("121 of 120: kept(1, 0)", z.kept(1, 0), -9);
+        z.size(2, 1);
+        due.is("120 of 120: kept(1, 0)", z.kept(1, 0), 6);
     }
 
     private static void keptByLeases(Due due) {

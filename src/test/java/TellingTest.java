@@ -19,6 +19,7 @@ final class TellingTest {
         teamOf(due);
         free(due);
         count(due);
+        fullHouse(due);
         due.end();
     }
 
@@ -315,5 +316,50 @@ final class TellingTest {
             due.is("count(" + what + ")", x.count(what), -9);
         }
         due.refusals("another what is no refusal:", x, 0, 0, 0, 0, 0);
+    }
+
+    /** Sixteen teams on all floors with all that can be told: every call answers. */
+    private static void fullHouse(Due due) {
+        FloorPlans x = new FloorPlans();
+        for (int t = 0; t < 16; t++) {
+            x.team(10, 0, 0, 9);
+            x.sit(t, t < 11 ? t : 10);
+            x.grow(t, t, 20);
+            x.person(t, 0, 32);
+        }
+        x.floor(10, 0, 60);
+        x.floor(10, 1, 2);
+        x.two(15, 0, 0, 3);
+        x.two(15, 0, 1, 1);
+        x.two(14, 15, 2, 1);
+        x.two(15, 13, 1, 1);
+        due.is("full: fit()", x.fit(), 0);
+        x.two(15, 13, 1, 0);
+        due.is("full: fit() again", x.fit(), 1);
+        due.is("full: walked()", x.walked(), 30);
+        due.is("full: free(10)", x.free(10), 10000);
+        int[] want = {16, 16, 0, 1, 1, 0, 16};
+        for (int what = 0; what <= 6; what++) {
+            due.is("full: count(" + what + ")", x.count(what), want[what]);
+        }
+        due.is("full: best(1536, 32768, 0)", x.best(1536, 32768, 0), 27);
+        due.is("full: bestOf(1536, 32768, 15)", x.bestOf(1536, 32768, 15), 9);
+        due.is("full: seat(1536, 32768)", x.seat(1536, 32768), 1);
+        x.target(15, 0);
+        due.is("full: weekends(0)", x.weekends(0), 1);
+        due.is("full: move(0, 0, 0)", x.move(0, 0, 0), 15);
+        due.is("full: move(0, 0, 1)", x.move(0, 0, 1), 0);
+        due.is("full: go(0)", x.go(0), 1);
+        due.is("full: fix(15, true)", x.fix(15, true), 1);
+        due.is("full: best(1, 32768, 0)", x.best(1, 32768, 0), -3);
+        due.is("full: bill(15)", x.bill(15), 200);
+        due.is("full: turn(10)", x.turn(10), 10);
+        due.is("full: kept(19, 0)", x.kept(19, 0), 255);
+        due.is("full: desks(15)", x.desks(15), 1);
+        due.is("full: lack(15, 0, 4)", x.lack(15, 0, 4), 1 << 29);
+        due.is("full: least(15, 499)", x.least(15, 499), 1);
+        due.is("full: sizeIn(15, 14)", x.sizeIn(15, 14), 10);
+        due.is("full: sizeIn(15, 15)", x.sizeIn(15, 15), 20);
+        due.refusals("full:", x, 0, 0, 1, 0, 0);
     }
 }
