@@ -769,7 +769,7 @@ public final class FloorPlans {
             return sum;
         }
 
-        /** What the c-th chosen team on a floor adds to the walk with all that are placed; none if it can't be there. */
+        /** What a chosen team on a floor adds to the walk with all placed so far; none if it can't be there. */
         private int walkAmongPlaced(int c, int o) {
             int sum = walkToStaying[c][o];
             for (int e = 0; e < c && sum != NONE; e++) {
@@ -900,7 +900,7 @@ public final class FloorPlans {
         }
 
         private void enqueue(int state, int left) {
-            if (queued < queue.length && movesLeft[state] == UNKNOWN) {
+            if (movesLeft[state] == UNKNOWN && queued < queue.length) {
                 movesLeft[state] = left;
                 queue[queued] = state;
                 queued++;
@@ -912,8 +912,11 @@ public final class FloorPlans {
             open(state);
             int left = movesLeft[state] + 1;
             for (int m = 0; m < moverCount; m++) {
-                for (int s = 0; s < stopCount && spare[digits[m]] >= 0; s++) {
-                    enqueue(state + (s - digits[m]) * POWERS[m], left);
+                if (spare[digits[m]] >= 0) {
+                    int others = state - digits[m] * POWERS[m];
+                    for (int s = 0; s < stopCount; s++) {
+                        enqueue(others + s * POWERS[m], left);
+                    }
                 }
             }
         }
