@@ -13,6 +13,7 @@ import java.util.regex.Pattern;
 /** The public face of the document, and those rules of LANGUAGE.md that can be read off the program. */
 final class LanguageTest {
     private static final Path SOURCE = Path.of("src/main/java/FloorPlans.java");
+    private static final Path DOCUMENT = Path.of("../shared/DOC.md");
     private static final String[] FACE = {
         "floor(int,int,int)", "team(int,int,int,int)", "size(int,int)", "sit(int,int)", "fix(int,boolean)",
         "two(int,int,int,int)", "fit()", "lift(int)", "walked()", "best(int,int,int)", "bestOf(int,int,int)",
@@ -29,6 +30,7 @@ final class LanguageTest {
     private static final Set<String> problems = new TreeSet<>();
 
     public static void main(String[] args) throws IOException {
+        faceOfTheDocument();
         face();
         nested();
         source(Files.readString(SOURCE));
@@ -45,6 +47,22 @@ final class LanguageTest {
             text.append(text.charAt(text.length() - 1) == '(' ? "" : ",").append(type.getName());
         }
         return text.append(')').toString();
+    }
+
+    /** The face that the class is held to is the one that the document shows, no call more or less. */
+    private static void faceOfTheDocument() throws IOException {
+        if (!Files.exists(DOCUMENT)) {
+            System.out.println("LanguageTest: there is no " + DOCUMENT + ", so the face is not compared with it");
+            return;
+        }
+        String document = Files.readString(DOCUMENT);
+        check(document.contains("public final class FloorPlans {\n    public FloorPlans();\n"), "the document has another face");
+        Set<String> shown = new TreeSet<>();
+        Matcher line = Pattern.compile("(?m)^    public int (\\w+)\\(([^)]*)\\);$").matcher(document);
+        while (line.find()) {
+            shown.add(line.group(1) + "(" + line.group(2).replaceAll(" \\w+(, )?", ",").replaceAll(",$", "") + ")");
+        }
+        check(shown.equals(new TreeSet<>(Set.of(FACE))), "the document shows " + shown);
     }
 
     private static void face() {
